@@ -824,9 +824,9 @@ public final class DirtPress {
      * and a sign is its character below 0. Empty: there is none.
      */
     private static final class Text {
-        final int[] parts = new int[MOST_BYTES];
-        final int[] stack = new int[MOST_BYTES];
-        int size;
+        private final int[] parts = new int[MOST_BYTES];
+        private final int[] stack = new int[MOST_BYTES];
+        private int size;
 
         boolean stands() {
             return size > 0;
@@ -874,14 +874,14 @@ public final class DirtPress {
             return top > 0 ? stack[0] : 0;
         }
 
-        static int named(int part, int a, int b, int c) {
+        private static int named(int part, int a, int b, int c) {
             if (part == -1) {
                 return a;
             }
             return part == -2 ? b : c;
         }
 
-        static int joined(int sign, int left, int right) {
+        private static int joined(int sign, int left, int right) {
             switch (sign) {
                 case '|': return left != 0 || right != 0 ? 1 : 0;
                 case '&': return left != 0 && right != 0 ? 1 : 0;
@@ -903,11 +903,11 @@ public final class DirtPress {
      */
     private static final class Reader {
         final Text made = new Text();
-        final int[] tape = new int[MOST_BYTES];
-        int bytes;
-        int place;
-        int use;
-        boolean failed;
+        private final int[] tape = new int[MOST_BYTES];
+        private int bytes;
+        private int place;
+        private int use;
+        private boolean failed;
 
         /** The FAULT; -1: there is none, and the TEXT is made. */
         int faultOf(World world, int ofUse) {
@@ -922,7 +922,7 @@ public final class DirtPress {
         }
 
         /** T, A, B, S, P by their levels: parts of the next level, joined by the signs of this one. */
-        void readChain(int level, int open) {
+        private void readChain(int level, int open) {
             if (level > TIGHTEST) {
                 readUnit(open);
                 return;
@@ -940,7 +940,7 @@ public final class DirtPress {
         }
 
         /** Q. */
-        void readUnit(int open) {
+        private void readUnit(int open) {
             int sign = place < bytes ? tape[place] : -1;
             int name = nameOf(sign);
             if (isDigit(sign)) {
@@ -961,7 +961,7 @@ public final class DirtPress {
             }
         }
 
-        void readNumber() {
+        private void readNumber() {
             int v = 0;
             for (int i = 0; i < MOST_DIGITS && place < bytes && isDigit(tape[place]); i++) {
                 v = v * 10 + tape[place] - '0';
@@ -970,7 +970,7 @@ public final class DirtPress {
             made.add(v);
         }
 
-        void readClosing() {
+        private void readClosing() {
             if (failed || place >= bytes || tape[place] != ')') {
                 failed = true;
                 return;
@@ -978,7 +978,7 @@ public final class DirtPress {
             place++;
         }
 
-        int nameOf(int sign) {
+        private int nameOf(int sign) {
             for (int i = 0; i < NAMES_OF_A_USE; i++) {
                 if (NAMES[use * NAMES_OF_A_USE + i] == sign) {
                     return i + 1;
@@ -987,11 +987,11 @@ public final class DirtPress {
             return 0;
         }
 
-        static boolean isDigit(int sign) {
+        private static boolean isDigit(int sign) {
             return sign >= '0' && sign <= '9';
         }
 
-        static int levelOf(int sign) {
+        private static int levelOf(int sign) {
             switch (sign) {
                 case '|': return LOOSEST;
                 case '&': return 1;
@@ -1012,9 +1012,9 @@ public final class DirtPress {
      * What is only thought; its rows are made once, as no call may make many.
      */
     private static final class Thought {
-        final int[] cells = new int[CELLS];
-        final int[] sums = new int[SETS];
-        final int[] groups = new int[SETS];
+        private final int[] cells = new int[CELLS];
+        private final int[] sums = new int[SETS];
+        private final int[] groups = new int[SETS];
 
         int later(World world, int person, int sort, int n) {
             int has = world.spoons[cell(person, sort)];
@@ -1041,7 +1041,7 @@ public final class DirtPress {
             return -1;
         }
 
-        boolean couldBear(World world, int one, int other, int person) {
+        private boolean couldBear(World world, int one, int other, int person) {
             if (one == person || other == person) {
                 return false;
             }
@@ -1086,16 +1086,14 @@ public final class DirtPress {
         }
 
         // A group whose BALANCES are 0 together is done by one payment less than it has people,
-        // so the most groups give the fewest payments.
+        // so the most groups give the fewest payments. Nobody is set 0, which stays 0 in both rows.
         int fewestPayments(World world) {
-            sums[0] = 0;
             for (int person = 0; person < world.people; person++) {
                 int balance = world.balanceOf(person);
                 for (int set = 0; set < 1 << person; set++) {
                     sums[set | 1 << person] = sums[set] + balance;
                 }
             }
-            groups[0] = 0;
             int sets = 1 << world.people;
             for (int set = 1; set < sets; set++) {
                 int most = 0;
@@ -1109,7 +1107,7 @@ public final class DirtPress {
             return world.people - groups[sets - 1];
         }
 
-        boolean fitsSet(World world, Sheet heap, int set) {
+        private boolean fitsSet(World world, Sheet heap, int set) {
             for (int sort = 0; sort < heap.length && sort < SORTS; sort++) {
                 int sum = 0;
                 for (int person = 0; person < world.people; person++) {
@@ -1204,7 +1202,7 @@ public final class DirtPress {
         }
 
         /** A VOICE by the BODY of a KIND, or of the next KIND above that has one. */
-        int say(int voice, int kind, int x, int depth) {
+        private int say(int voice, int kind, int x, int depth) {
             int owner = kind;
             for (int i = 0; i < KINDS && owner >= 0 && BODIES[owner * VOICES + voice] == 0; i++) {
                 owner = ABOVE[owner];
@@ -1217,14 +1215,14 @@ public final class DirtPress {
             return worked(body, ABOVE[owner], x, depth + 1);
         }
 
-        void begin(int body) {
+        private void begin(int body) {
             if (begun < MOST_BODIES) {
                 bodies[begun] = body;
                 begun++;
             }
         }
 
-        int worked(int body, int above, int x, int depth) {
+        private int worked(int body, int above, int x, int depth) {
             switch (body) {
                 case 10: return x + k;
                 case 11: return say(WASHES, own, x, depth) * 2;
@@ -1243,7 +1241,7 @@ public final class DirtPress {
             }
         }
 
-        int divided(int x, int by) {
+        private int divided(int x, int by) {
             if (by == 0) {
                 parted = true;
                 return 0;

@@ -21,7 +21,29 @@ public final class ModelTest {
         for (int seed = 0; seed < RUNS; seed++) {
             new ModelTest(seed).run(seed);
         }
+        for (int seed = 0; seed < RUNS / 2; seed++) {
+            new ModelTest(seed).lendMuch(2 + seed % 7);
+        }
         due.end();
+    }
+
+    /** Small loans among many, so that groups of all sizes net out. */
+    private void lendMuch(int people) {
+        for (int p = 0; p < people; p++) {
+            int at = p;
+            is("person", x.person(0), m.call(() -> m.person(0)));
+            is("spoon", x.spoon(at, 0, 50), m.call(() -> m.spoon(at, 0, 50)));
+        }
+        while (calls < 500) {
+            int p = random.nextInt(people);
+            int q = random.nextInt(people);
+            int n = 1 + random.nextInt(3);
+            boolean back = random.nextInt(3) == 0;
+            is("loan", back ? x.repay(p, q, 0, n) : x.lend(p, q, 0, n),
+                m.call(() -> back ? m.repay(p, q, 0, n) : m.lend(p, q, 0, n)));
+            is("nets(0)", x.nets(0), m.call(() -> m.nets(0)));
+            is("nets(1)", x.nets(1), m.call(() -> m.nets(1)));
+        }
     }
 
     private void run(int seed) {

@@ -130,9 +130,10 @@ public final class SheetsTest {
     private static void spoons() {
         DirtPress x = new DirtPress();
         rows(x);
+        x.spoon(1, 3, 44);
         due.is("spoons(1, 1)", x.spoons(1, 1), 3);
         due.is("the third", x.hold(1, 2), 23);
-        due.is("the fourth stays", x.hold(1, 3), 0);
+        due.is("the fourth stays", x.hold(1, 3), 44);
         Due.row(x, 3, 16, 99, 0, 100, 7);
         due.is("up to 100", x.spoons(0, 3), 2);
         due.is("the first", x.hold(0, 0), 99);
@@ -145,6 +146,9 @@ public final class SheetsTest {
         Due.row(x, 3, 8, 1, 1, 1, 1, 1, 1, 1);
         due.is("no sixth sort", x.spoons(1, 3), 5);
         due.is("all of the one", x.personIs(1, 4), 5);
+        x.spoon(1, 0, 7);
+        due.is("no sixth sort of the first", x.spoons(0, 3), 5);
+        due.is("the next one keeps", x.hold(1, 0), 7);
         x.sheet(3, 8, 0);
         due.is("an empty sheet", x.spoons(1, 3), 0);
         due.error("spoons(2, 0)", SheetsTest::rows, y -> y.spoons(2, 0), Due.BEYOND);

@@ -127,6 +127,19 @@ public final class ThoughtTest {
         due.error("parents(-1, 0)", ThoughtTest::pairs, y -> y.parents(-1, 0), Due.BEYOND);
         due.error("parents(0, 3)", ThoughtTest::pairs, y -> y.parents(0, 3), Due.BEYOND);
         due.error("parents(4, -1)", ThoughtTest::pairs, y -> y.parents(4, -1), Due.BEYOND);
+        x.spoon(0, 0, 5);
+        due.is("the first sort is off", x.parents(0, 0), 0);
+        Due.set(x, 4, 2, 4, 4, 4, 4);
+        due.is("a pair with the first", x.parents(4, 0), 0);
+        Due.set(x, 4, 5, 4, 4, 4, 4);
+        due.is("the first and the fourth", x.parents(4, 0), 1);
+        due.is("the first", x.parents(4, 1), 0);
+        due.is("the fourth", x.parents(4, 2), 3);
+        DirtPress y0 = new DirtPress();
+        y0.person(0);
+        y0.person(0);
+        due.is("one other is no pair", y0.parents(0, 0), 0);
+        due.is("nobody is no other", y0.parents(0, 1), Due.LOW - Due.NONE);
         DirtPress z = new DirtPress();
         for (int i = 0; i < 4; i++) {
             z.person(0);
@@ -199,6 +212,8 @@ public final class ThoughtTest {
         nets("no loan", owing(), 0, 0);
         nets("one loan", owing(0, 1, 5), 1, 5);
         nets("a ring", owing(0, 1, 5, 1, 2, 5, 2, 0, 5), 0, 0);
+        nets("one loan to the first", owing(1, 0, 5), 1, 5);
+        nets("a loan of the last by the first", owing(7, 0, 5, 0, 6, 4), 2, 5);
         nets("a chain", owing(0, 1, 5, 1, 2, 5), 1, 5);
         nets("loans both ways", owing(0, 1, 9, 1, 0, 4), 1, 5);
         nets("two pairs across", owing(0, 1, 3, 0, 3, 2, 2, 3, 5), 3, 10);
@@ -236,6 +251,9 @@ public final class ThoughtTest {
         due.is("half of six, above", x.odds(6, 0), 1);
         due.is("half of six, below", x.odds(6, 1), 2);
         due.is("one of six", x.odds(1, 1), 6);
+        x.person(0);
+        due.is("six of ten, above", x.odds(6, 0), 3);
+        due.is("six of ten, below", x.odds(6, 1), 5);
         due.error("odds(501, 0)", ThoughtTest::two, y -> y.odds(501, 0), Due.BEYOND);
         due.error("odds(-1, 0)", ThoughtTest::two, y -> y.odds(-1, 0), Due.BEYOND);
         due.error("odds(1, 2)", ThoughtTest::two, y -> y.odds(1, 2), Due.BEYOND);

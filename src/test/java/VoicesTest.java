@@ -72,6 +72,9 @@ public final class VoicesTest {
         due.is("parts by 1 - 3", x.voice(3, 3, -7), 3);
         due.is("an answer that is no error", x.voice(0, 0, -1000000001), -1000000001);
         due.is("is not told", x.told(1), 0);
+        x.become(3, 40);
+        due.is("airs of an abbot, 0 ^ 3", x.voice(3, 2, 1), 3);
+        due.is("airs of an abbot, 6 ^ 3", x.voice(3, 2, 2), 5);
     }
 
     private static long spoken(DirtPress x) {

@@ -35,6 +35,8 @@ public final class YearsTest {
             due.is("an abbot's sort " + sort, x.hold(1, sort), second[sort]);
         }
         due.is("to 999", x.years(6), 999);
+        x.person(0);
+        due.is("who comes later did not grow", x.personIs(2, 4), 0);
     }
 
     private static void kinds() {
