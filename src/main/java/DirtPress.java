@@ -73,8 +73,7 @@ public final class DirtPress {
     private final Sheet[] sheets;
     private final Reader reader;
     private final Thought thought;
-    private Speech latest;
-    private Speech spare;
+    private final Speech latest;
 
     public DirtPress() {
         world = new World();
@@ -87,7 +86,6 @@ public final class DirtPress {
         reader = new Reader();
         thought = new Thought();
         latest = new Speech();
-        spare = new Speech();
     }
 
     // ---- people, spoons
@@ -404,15 +402,9 @@ public final class DirtPress {
         if (notOne(person) || notWithin(voice, 0, VOICES - 1)) {
             return error(BEYOND);
         }
-        int answer = spare.speak(world, person, voice, x);
-        // An ERROR leaves THE TRACE as it was, so a parted voice is not the latest.
-        if (spare.parted) {
-            return error(PARTED);
-        }
-        Speech older = latest;
-        latest = spare;
-        spare = older;
-        return answer;
+        int answer = latest.speak(world, person, voice, x);
+        // A parted voice is the latest one, too: THE TRACE is by what began in it.
+        return latest.parted ? error(PARTED) : answer;
     }
 
     public int body(int i) {
@@ -1182,7 +1174,7 @@ public final class DirtPress {
     }
 
     /**
-     * One voice() and THE TRACE of it.
+     * The latest voice() and THE TRACE of it.
      */
     private static final class Speech {
         final int[] bodies = new int[MOST_BODIES];
@@ -1203,6 +1195,10 @@ public final class DirtPress {
 
         /** A VOICE by the BODY of a KIND, or of the next KIND above that has one. */
         private int say(int voice, int kind, int x, int depth) {
+            // PARTED is all that voice() answers, so behind it nothing more begins.
+            if (parted) {
+                return 0;
+            }
             int owner = kind;
             for (int i = 0; i < KINDS && owner >= 0 && BODIES[owner * VOICES + voice] == 0; i++) {
                 owner = ABOVE[owner];

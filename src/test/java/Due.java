@@ -1,4 +1,5 @@
 import java.util.ArrayList;
+import java.util.Arrays;
 import java.util.List;
 
 /** What a test asks, and how many answers were wrong. Every object it makes stays under 512 calls. */
@@ -42,6 +43,20 @@ final class Due {
 
     /** After the setup, the call answers an ERROR, which told() tells once more; nothing else is changed. */
     void error(String call, Act setup, Act act, int k) {
+        error(call, setup, act, k, false);
+    }
+
+    /** As error, but the call is a voice(), which is parted: THE TRACE is that of the bodies. */
+    void parted(String call, Act setup, Act act, int... bodies) {
+        error(call, setup, act, PARTED, true);
+        DirtPress x = new DirtPress();
+        setup.on(x);
+        act.on(x);
+        is(call + ", THE TRACE", trace(x), Arrays.toString(bodies));
+        is(call + ", a body too many", x.body(bodies.length), LOW - NONE);
+    }
+
+    private void error(String call, Act setup, Act act, int k, boolean traces) {
         DirtPress without = new DirtPress();
         setup.on(without);
         DirtPress with = new DirtPress();
@@ -50,14 +65,27 @@ final class Due {
         for (int i = 1; i <= 6; i++) {
             is(call + ", then told(" + i + ")", with.told(i), without.told(i) + (i == k ? 1 : 0));
         }
+        if (!traces) {
+            is(call + ", then THE TRACE", trace(with), trace(without));
+        }
         is(call + ", then all", look(with), look(without));
     }
 
-    /** All that can be seen of an object; it is not used any more then. */
+    static String trace(DirtPress x) {
+        int[] bodies = new int[x.count(4)];
+        for (int i = 0; i < bodies.length; i++) {
+            bodies[i] = x.body(i);
+        }
+        return Arrays.toString(bodies);
+    }
+
+    /** All that can be seen of an object but THE TRACE; it is not used any more then. */
     static String look(DirtPress x) {
         List<Long> seen = new ArrayList<>();
         for (int i = 0; i <= 5; i++) {
-            seen.add((long) x.count(i));
+            if (i != 4) {
+                seen.add((long) x.count(i));
+            }
         }
         int people = x.count(0);
         for (int p = 0; p < people; p++) {
@@ -72,9 +100,6 @@ final class Due {
                     seen.add((long) x.owes(p, other));
                 }
             }
-        }
-        for (int i = 0; i < x.count(4); i++) {
-            seen.add((long) x.body(i));
         }
         seen.add((long) x.law(0, 5, 1, 2));
         seen.add((long) x.law(1, 5, 1, 2));

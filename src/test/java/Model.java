@@ -690,17 +690,14 @@ final class Model {
     int voice(int p, int voice, int x) {
         One one = one(p);
         within(voice, 0, 3);
-        List<Integer> began = new ArrayList<>();
-        Person who = one.as(p, began);
-        int v;
+        trace = new ArrayList<>();
+        Person who = one.as(p, trace);
         switch (voice) {
-            case 0: v = who.washes(x); break;
-            case 1: v = who.wrings(x); break;
-            case 2: v = who.airs(x); break;
-            default: v = who.parts(x); break;
+            case 0: return who.washes(x);
+            case 1: return who.wrings(x);
+            case 2: return who.airs(x);
+            default: return who.parts(x);
         }
-        trace = began;
-        return v;
     }
 
     int body(int i) {

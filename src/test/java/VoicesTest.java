@@ -9,6 +9,7 @@ public final class VoicesTest {
         voices();
         wraps();
         parted();
+        beyondBehindParted();
         wrong();
         due.end();
     }
@@ -84,17 +85,45 @@ public final class VoicesTest {
         return x.voice(0, 2, 5);
     }
 
+    private static long spokenBySeven(DirtPress x) {
+        for (int kind = 0; kind <= 6; kind++) {
+            x.person(kind * 10 + kind);
+        }
+        return x.voice(4, 2, 5);
+    }
+
     private static void parted() {
-        due.error("parts of a bishop by 0", VoicesTest::spoken, x -> x.voice(1, 3, 5), Due.PARTED);
-        due.error("parts of an abbot by 0", VoicesTest::spoken, x -> x.voice(2, 3, 0), Due.PARTED);
+        due.parted("parts of a person by 0", VoicesTest::spokenBySeven, x -> x.voice(0, 3, 5), 13);
+        due.parted("parts of a bishop by 0", VoicesTest::spokenBySeven, x -> x.voice(1, 3, 5), 21, 13);
+        due.parted("parts of a sweep by 0", VoicesTest::spokenBySeven, x -> x.voice(2, 3, 5), 13);
+        due.parted("parts of an inker by 0", VoicesTest::spokenBySeven, x -> x.voice(3, 3, 5), 13);
+        due.parted("parts of an abbot by 0", VoicesTest::spokenBySeven, x -> x.voice(4, 3, 0), 21, 13);
+        due.parted("parts of a duster by 0", VoicesTest::spokenBySeven, x -> x.voice(5, 3, 5), 13);
+        due.parted("parts of a foundling by 0", VoicesTest::spokenBySeven, x -> x.voice(6, 3, 5), 13);
+        due.parted("parts by 0 as the first of all", x -> x.person(0), x -> x.voice(0, 3, 0), 13);
         DirtPress x = new DirtPress();
         spoken(x);
         due.is("parted", x.voice(1, 3, 5), Due.LOW - Due.PARTED);
         due.is("another voice of the same", x.voice(1, 0, 5), 2);
-        due.is("its trace", x.body(0), 20);
+        due.is("its trace", Due.trace(x), "[20, 10]");
         due.is("parts of one who isn't parted", x.voice(0, 3, 7), 2);
         x.become(1, 13);
         due.is("with another m", x.voice(1, 3, 6), 3 + (1 + 1 - 4) * 2);
+        due.is("the trace of that", Due.trace(x), "[21, 13, 11, 20, 10]");
+    }
+
+    private static long spokenAndParted(DirtPress x) {
+        spoken(x);
+        return x.voice(1, 3, 5);
+    }
+
+    private static void beyondBehindParted() {
+        due.error("nobody's voice", VoicesTest::spokenAndParted, x -> x.voice(3, 0, 1), Due.BEYOND);
+        due.error("no such voice", VoicesTest::spokenAndParted, x -> x.voice(0, 4, 1), Due.BEYOND);
+        DirtPress x = new DirtPress();
+        spokenAndParted(x);
+        x.voice(3, 3, 1);
+        due.is("the trace stays that of the parted voice", Due.trace(x), "[21, 13]");
     }
 
     private static void wrong() {
