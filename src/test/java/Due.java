@@ -1,6 +1,6 @@
-import java.util.ArrayList;
 import java.util.Arrays;
-import java.util.List;
+import java.util.HashSet;
+import java.util.Set;
 
 /** What a test asks, and how many answers were wrong. Every object it makes stays under 512 calls. */
 final class Due {
@@ -17,7 +17,12 @@ final class Due {
         long on(DirtPress x);
     }
 
+    interface Of {
+        long on(DirtPress x, int v);
+    }
+
     private final String test;
+    private final Set<String> edges = new HashSet<>();
     private int asked;
     private int wrong;
 
@@ -41,7 +46,45 @@ final class Due {
         }
     }
 
-    /** After the setup, the call answers an ERROR, which told() tells once more; nothing else is changed. */
+    /** A test of its own for one edge: what the act answers on a new object behind the setup. */
+    void edge(String edge, Act setup, Act act, long want) {
+        alone(edge);
+        DirtPress x = new DirtPress();
+        setup.on(x);
+        is(edge, act.on(x), want);
+    }
+
+    /** A test of its own for one edge: what is seen behind the act. */
+    void edge(String edge, Act setup, Act act, Act seen, long want) {
+        edge(edge, x -> setup.on(x) + act.on(x), seen, want);
+    }
+
+    /** A test of its own for one edge: the act is let in, it answers no ERROR and none is told. */
+    void letsIn(String edge, Act setup, Act act) {
+        alone(edge);
+        DirtPress x = new DirtPress();
+        setup.on(x);
+        String before = told(x);
+        is(edge + " is let in", act.on(x) >= LOW ? 1 : 0, 1);
+        is(edge + " is let in, then told()", told(x), before);
+    }
+
+    /** A test of its own for each side: the least and the most are let in, what is below or above is BEYOND. */
+    void range(String edge, Act setup, Of act, int least, int most) {
+        letsIn(edge + " " + least, setup, x -> act.on(x, least));
+        if (most > least) {
+            letsIn(edge + " " + most, setup, x -> act.on(x, most));
+        }
+        for (int v : new int[] {least - 1, most + 1, Integer.MIN_VALUE, Integer.MAX_VALUE}) {
+            error(edge + " " + v, setup, x -> act.on(x, v), BEYOND);
+        }
+    }
+
+    private void alone(String edge) {
+        is(edge + " is asked once", edges.add(edge) ? 1 : 0, 1);
+    }
+
+    /** A test of its own: the call answers an ERROR, which told() tells once more; nothing else is changed. */
     void error(String call, Act setup, Act act, int k) {
         error(call, setup, act, k, false);
     }
@@ -57,18 +100,50 @@ final class Due {
     }
 
     private void error(String call, Act setup, Act act, int k, boolean traces) {
+        alone(call);
         DirtPress without = new DirtPress();
         setup.on(without);
         DirtPress with = new DirtPress();
         setup.on(with);
+        int[] told = new int[7];
+        for (int i = 1; i <= 6; i++) {
+            told[i] = without.told(i) + (i == k ? 1 : 0);
+        }
         is(call + " (" + NAMES[k] + ")", act.on(with), LOW - k);
         for (int i = 1; i <= 6; i++) {
-            is(call + ", then told(" + i + ")", with.told(i), without.told(i) + (i == k ? 1 : 0));
+            is(call + ", then told(" + i + ")", with.told(i), told[i]);
         }
         if (!traces) {
             is(call + ", then THE TRACE", trace(with), trace(without));
         }
-        is(call + ", then all", look(with), look(without));
+        for (Look look : Look.values()) {
+            is(call + ", then " + look, seen(look, setup, act), seen(look, setup, x -> 0));
+        }
+    }
+
+    /** What can be seen of a new object behind the setup and the act. */
+    static String seen(Look look, Act setup, Act act) {
+        DirtPress x = new DirtPress();
+        setup.on(x);
+        act.on(x);
+        return look.at(x);
+    }
+
+    /** All that can be seen but THE TRACE and what told() tells, behind the setup and the act. */
+    static String all(Act setup, Act act) {
+        StringBuilder all = new StringBuilder();
+        for (Look look : Look.values()) {
+            all.append(look).append(' ').append(seen(look, setup, act)).append('\n');
+        }
+        return all.toString();
+    }
+
+    static String told(DirtPress x) {
+        int[] told = new int[6];
+        for (int k = 1; k <= 6; k++) {
+            told[k - 1] = x.told(k);
+        }
+        return Arrays.toString(told);
     }
 
     static String trace(DirtPress x) {
@@ -77,47 +152,6 @@ final class Due {
             bodies[i] = x.body(i);
         }
         return Arrays.toString(bodies);
-    }
-
-    /** All that can be seen of an object but THE TRACE; it is not used any more then. */
-    static String look(DirtPress x) {
-        List<Long> seen = new ArrayList<>();
-        for (int i = 0; i <= 5; i++) {
-            if (i != 4) {
-                seen.add((long) x.count(i));
-            }
-        }
-        int people = x.count(0);
-        for (int p = 0; p < people; p++) {
-            for (int what = 0; what <= 6; what++) {
-                seen.add((long) x.personIs(p, what));
-            }
-            for (int sort = 0; sort < 5; sort++) {
-                seen.add((long) x.hold(p, sort));
-            }
-            for (int other = 0; other < people; other++) {
-                if (other != p) {
-                    seen.add((long) x.owes(p, other));
-                }
-            }
-        }
-        seen.add((long) x.law(0, 5, 1, 2));
-        seen.add((long) x.law(1, 5, 1, 2));
-        for (int sheet = 0; sheet < 4; sheet++) {
-            seen.add((long) x.fits(sheet, 0));
-            seen.add((long) x.judge(sheet));
-            for (int i = 0; i < 24; i += 4) {
-                seen.add((long) x.put(sheet, i, 1));
-            }
-            seen.add((long) x.move(sheet, 0, 0, 0, 0));
-        }
-        seen.add((long) x.check());
-        seen.add((long) x.text(0));
-        seen.add((long) x.law(0, 5, 1, 2));
-        seen.add((long) x.restore());
-        seen.add((long) x.count(0));
-        seen.add((long) x.image());
-        return seen.toString();
     }
 
     static long set(DirtPress x, int person, int... spoons) {

@@ -133,11 +133,5 @@ public final class FullTest {
         for (int i = 0; i < ends.length; i++) {
             due.is("60 bytes that end by " + ends[i], Due.text(new DirtPress(), 0, sum + ends[i]), answers[i]);
         }
-        DirtPress x = new DirtPress();
-        due.is("a shorter text", Due.text(x, 0, "(w+4)"), 1);
-        due.is("what stood on the tape is no part", Due.text(x, 0, "(w+4"), -14);
-        due.is("nor of a number", Due.text(x, 0, "(w+"), -13);
-        due.is("nor of a sum", Due.text(x, 0, "(w"), -12);
-        due.is("the one ahead stays", x.law(0, 4, 0, 0), 8);
     }
 }

@@ -1,4 +1,4 @@
-/** Promises 36 to 41. */
+/** Promises 36 to 41; their edges stand in EdgesOfImagesTest. */
 public final class ImagesTest {
     private static final Due due = new Due("ImagesTest");
 
@@ -6,7 +6,6 @@ public final class ImagesTest {
         images();
         whatIsKept();
         whatIsNot();
-        telling();
         checking();
         counting();
         told();
@@ -60,19 +59,11 @@ public final class ImagesTest {
         due.is("how often is not restored", x.image(), 3);
         x.year(2);
         due.is("the later one", x.restore(), 700);
-        due.error("restore of none", ImagesTest::some, y -> y.restore(), Due.NONE);
     }
 
     private static void whatIsKept() {
-        DirtPress as = new DirtPress();
-        some(as);
-        as.image();
-        DirtPress x = new DirtPress();
-        some(x);
-        x.image();
-        spoil(x);
-        due.is("restore()", x.restore(), 70);
-        due.is("all is as it was", Due.look(x), Due.look(as));
+        due.is("all is as it was", Due.all(ImagesTest::some, x -> x.image() + spoil(x) + x.restore()),
+            Due.all(ImagesTest::some, x -> x.image()));
         DirtPress y = new DirtPress();
         some(y);
         y.image();
@@ -111,25 +102,6 @@ public final class ImagesTest {
         due.is("the trace stays", x.count(4), 1);
         due.is("its body", x.body(0), 10);
         due.is("what told() tells stays", x.told(1), 1);
-    }
-
-    private static long waiting(DirtPress x) {
-        some(x);
-        for (int i = 2; i < 24; i++) {
-            x.tell(i);
-        }
-        return 0;
-    }
-
-    private static void telling() {
-        DirtPress x = new DirtPress();
-        for (int i = 1; i <= 24; i++) {
-            due.is("tell", x.tell(-i), i);
-        }
-        due.is("count(3)", x.count(3), 24);
-        due.error("a 25th", ImagesTest::waiting, y -> y.tell(1), Due.FULL);
-        x.check();
-        due.is("none wait then", x.tell(5), 1);
     }
 
     private static void checking() {
@@ -172,8 +144,6 @@ public final class ImagesTest {
         for (int i = 0; i < want.length; i++) {
             due.is("count(" + i + ")", x.count(i), want[i]);
         }
-        due.error("count(6)", ImagesTest::some, y -> y.count(6), Due.BEYOND);
-        due.error("count(-1)", ImagesTest::some, y -> y.count(-1), Due.BEYOND);
         x.seed(-1000000004);
         due.is("count(5) is any number", x.count(5), -1000000004);
         due.is("and no error", x.told(4), 0);
@@ -199,9 +169,6 @@ public final class ImagesTest {
         for (int k = 1; k <= 6; k++) {
             due.is("told(" + k + ")", x.told(k), want[k - 1]);
         }
-        due.error("told(0)", ImagesTest::some, y -> y.told(0), Due.BEYOND);
-        due.error("told(7)", ImagesTest::some, y -> y.told(7), Due.BEYOND);
-        due.error("told(-1)", ImagesTest::some, y -> y.told(-1), Due.BEYOND);
         due.is("told(7)", x.told(7), Due.LOW - Due.BEYOND);
         due.is("counted, too", x.told(1), 3);
     }

@@ -1,14 +1,12 @@
-/** Promises 1 to 9. */
+/** Promises 1 to 9; their edges stand in EdgesOfPeopleTest and EdgesOfTermsTest. */
 public final class PeopleTest {
     private static final Due due = new Due("PeopleTest");
 
     public static void main(String[] args) {
-        aNewObject();
         persons();
         children();
         personIs();
         becoming();
-        asAKind();
         spoons();
         gains();
         due.end();
@@ -22,40 +20,6 @@ public final class PeopleTest {
         return x.child(44, 1, 0);
     }
 
-    private static long crowd(DirtPress x) {
-        for (int i = 0; i < 8; i++) {
-            x.person(i * 10 % 70 + i);
-        }
-        return 0;
-    }
-
-    private static long nobody(DirtPress x) {
-        return 0;
-    }
-
-    private static void aNewObject() {
-        DirtPress x = new DirtPress();
-        int[] counts = {0, 0, 0, 0, 0, 1};
-        for (int i = 0; i < 6; i++) {
-            due.is("count(" + i + ") of a new object", x.count(i), counts[i]);
-        }
-        for (int k = 1; k <= 6; k++) {
-            due.is("told(" + k + ") of a new object", x.told(k), 0);
-        }
-        due.is("law(0, 4, 0, 0)", x.law(0, 4, 0, 0), 4);
-        due.is("law(1, 4, 0, 0)", x.law(1, 4, 0, 0), 4);
-        for (int sheet = 0; sheet < 4; sheet++) {
-            due.is("judge of a missing sheet", x.judge(sheet), Due.LOW - Due.NONE);
-        }
-        due.is("restore()", x.restore(), Due.LOW - Due.NONE);
-        due.is("body(0)", x.body(0), Due.LOW - Due.NONE);
-        DirtPress other = new DirtPress();
-        x.person(3);
-        x.year(7);
-        due.is("another object's people", other.count(0), 0);
-        due.is("another object's year", other.count(1), 0);
-    }
-
     private static void persons() {
         DirtPress x = new DirtPress();
         due.is("person(0)", x.person(0), 0);
@@ -65,10 +29,6 @@ public final class PeopleTest {
         due.is("father of the second", x.personIs(1, 2), -1);
         due.is("mother of the second", x.personIs(1, 3), -1);
         due.is("spoons of the second", x.personIs(1, 4), 0);
-        due.error("person(-1)", PeopleTest::family, y -> y.person(-1), Due.BEYOND);
-        due.error("person(70)", PeopleTest::family, y -> y.person(70), Due.BEYOND);
-        due.error("a ninth", PeopleTest::crowd, y -> y.person(1), Due.FULL);
-        due.error("a ninth of no kind", PeopleTest::crowd, y -> y.person(70), Due.BEYOND);
     }
 
     private static void children() {
@@ -84,16 +44,6 @@ public final class PeopleTest {
         due.is("mother", x.personIs(2, 3), 0);
         due.is("kind", x.personIs(2, 0), 4);
         due.is("m", x.personIs(2, 1), 4);
-        due.error("child(70, 0, 1)", PeopleTest::family, y -> y.child(70, 0, 1), Due.BEYOND);
-        due.error("child(-1, 0, 1)", PeopleTest::family, y -> y.child(-1, 0, 1), Due.BEYOND);
-        due.error("child(1, 0, 0)", PeopleTest::family, y -> y.child(1, 0, 0), Due.BEYOND);
-        due.error("child(1, -1, 0)", PeopleTest::family, y -> y.child(1, -1, 0), Due.BEYOND);
-        due.error("child(1, 0, -1)", PeopleTest::family, y -> y.child(1, 0, -1), Due.BEYOND);
-        due.error("child(1, -1, -1)", PeopleTest::family, y -> y.child(1, -1, -1), Due.BEYOND);
-        due.error("child(1, 3, 0)", PeopleTest::family, y -> y.child(1, 3, 0), Due.BEYOND);
-        due.error("child(1, 0, 3)", PeopleTest::family, y -> y.child(1, 0, 3), Due.BEYOND);
-        due.error("a ninth child", PeopleTest::crowd, y -> y.child(1, 0, 1), Due.FULL);
-        due.error("a ninth child of one", PeopleTest::crowd, y -> y.child(1, 1, 1), Due.BEYOND);
     }
 
     private static void personIs() {
@@ -113,10 +63,6 @@ public final class PeopleTest {
         due.is("worth is below 0 nowhere", x.personIs(1, 5), 35 + 17 + 0 + 890 + 0);
         Due.text(x, 1, "v*s*9");
         due.is("worth by sorts, at most 999 each", x.personIs(0, 5), 9 + 0 + 999 + 108);
-        due.error("personIs(3, 0)", PeopleTest::family, y -> y.personIs(3, 0), Due.BEYOND);
-        due.error("personIs(-1, 0)", PeopleTest::family, y -> y.personIs(-1, 0), Due.BEYOND);
-        due.error("personIs(0, 7)", PeopleTest::family, y -> y.personIs(0, 7), Due.BEYOND);
-        due.error("personIs(0, -1)", PeopleTest::family, y -> y.personIs(0, -1), Due.BEYOND);
     }
 
     private static void becoming() {
@@ -128,27 +74,6 @@ public final class PeopleTest {
         due.is("the father then", x.personIs(2, 2), 1);
         due.is("the spoons then", x.hold(2, 0), 6);
         due.is("become(2, 0)", x.become(2, 0), 6);
-        due.error("become(3, 1)", PeopleTest::family, y -> y.become(3, 1), Due.BEYOND);
-        due.error("become(-1, 1)", PeopleTest::family, y -> y.become(-1, 1), Due.BEYOND);
-        due.error("become(0, 70)", PeopleTest::family, y -> y.become(0, 70), Due.BEYOND);
-        due.error("become(0, -1)", PeopleTest::family, y -> y.become(0, -1), Due.BEYOND);
-    }
-
-    private static void asAKind() {
-        for (int kind = 0; kind < 7; kind++) {
-            DirtPress x = new DirtPress();
-            x.person(kind * 10 + 7);
-            for (int upper = 0; upper < 7; upper++) {
-                boolean is = kind == upper || upper == 0 || kind == 4 && upper == 1 || kind == 5 && upper == 2;
-                due.is("one of " + kind + " as " + upper, x.as(0, upper), is ? 7 : Due.LOW - Due.KIND);
-            }
-        }
-        due.error("as(0, 1)", PeopleTest::family, y -> y.as(0, 1), Due.KIND);
-        due.error("as(1, 4)", PeopleTest::family, y -> y.as(1, 4), Due.KIND);
-        due.error("as(0, 7)", PeopleTest::family, y -> y.as(0, 7), Due.BEYOND);
-        due.error("as(0, -1)", PeopleTest::family, y -> y.as(0, -1), Due.BEYOND);
-        due.error("as(3, 1)", PeopleTest::family, y -> y.as(3, 1), Due.BEYOND);
-        due.error("as(-1, 1)", PeopleTest::family, y -> y.as(-1, 1), Due.BEYOND);
     }
 
     private static void spoons() {
@@ -160,16 +85,6 @@ public final class PeopleTest {
         due.is("spoon(0, 4, 0)", x.spoon(0, 4, 0), 99);
         due.is("hold(0, 4) then", x.hold(0, 4), 0);
         due.is("hold(0, 3) then", x.hold(0, 3), 99);
-        due.error("hold(0, 5)", PeopleTest::family, y -> y.hold(0, 5), Due.BEYOND);
-        due.error("hold(0, -1)", PeopleTest::family, y -> y.hold(0, -1), Due.BEYOND);
-        due.error("hold(3, 0)", PeopleTest::family, y -> y.hold(3, 0), Due.BEYOND);
-        due.error("hold(-1, 0)", PeopleTest::family, y -> y.hold(-1, 0), Due.BEYOND);
-        due.error("spoon(0, 5, 1)", PeopleTest::family, y -> y.spoon(0, 5, 1), Due.BEYOND);
-        due.error("spoon(0, -1, 1)", PeopleTest::family, y -> y.spoon(0, -1, 1), Due.BEYOND);
-        due.error("spoon(3, 0, 1)", PeopleTest::family, y -> y.spoon(3, 0, 1), Due.BEYOND);
-        due.error("spoon(-1, 0, 1)", PeopleTest::family, y -> y.spoon(-1, 0, 1), Due.BEYOND);
-        due.error("spoon(0, 0, 100)", PeopleTest::family, y -> y.spoon(0, 0, 100), Due.BEYOND);
-        due.error("spoon(0, 0, -1)", PeopleTest::family, y -> y.spoon(0, 0, -1), Due.BEYOND);
     }
 
     private static void gains() {
@@ -206,10 +121,5 @@ public final class PeopleTest {
         due.is("names s and y", x.gain(0, 4), 2);
         Due.text(x, 0, "0-w*4");
         due.is("a gain below", x.gain(0, 0), -9);
-        due.error("gain(3, 0)", PeopleTest::family, y -> y.gain(3, 0), Due.BEYOND);
-        due.error("gain(-1, 0)", PeopleTest::family, y -> y.gain(-1, 0), Due.BEYOND);
-        due.error("gain(0, 5)", PeopleTest::family, y -> y.gain(0, 5), Due.BEYOND);
-        due.error("gain(0, -1)", PeopleTest::family, y -> y.gain(0, -1), Due.BEYOND);
-        due.error("gain(0, 0) of nobody", PeopleTest::nobody, y -> y.gain(0, 0), Due.BEYOND);
     }
 }

@@ -1,14 +1,12 @@
-/** Promises 31 to 35. */
+/** Promises 31 to 35; their edges stand in EdgesOfSheetsTest. */
 public final class SheetsTest {
     private static final Due due = new Due("SheetsTest");
 
     public static void main(String[] args) {
         sheets();
-        wrongSheets();
         puts();
         lowestBits();
         moves();
-        wrongMoves();
         spoons();
         judges();
         due.end();
@@ -49,31 +47,11 @@ public final class SheetsTest {
         due.is("is not missing", x.judge(3), 0);
     }
 
-    private static void wrongSheets() {
-        due.error("sheet(4, 8, 1)", SheetsTest::rows, x -> x.sheet(4, 8, 1), Due.BEYOND);
-        due.error("sheet(-1, 8, 1)", SheetsTest::rows, x -> x.sheet(-1, 8, 1), Due.BEYOND);
-        due.error("sheet(4, 0, 1)", SheetsTest::rows, x -> x.sheet(4, 0, 1), Due.BEYOND);
-        due.error("sheet(4, 8, -1)", SheetsTest::rows, x -> x.sheet(4, 8, -1), Due.BEYOND);
-        for (int bits : new int[] {-8, 1, 7, 9, 15, 24, 31, 33, 64}) {
-            due.error("sheet(0, " + bits + ", 1)", SheetsTest::rows, x -> x.sheet(0, bits, 1), Due.BEYOND);
-            due.error("sheet(0, " + bits + ", -1)", SheetsTest::rows, x -> x.sheet(0, bits, -1), Due.BEYOND);
-        }
-        due.error("sheet(0, 8, -1)", SheetsTest::rows, x -> x.sheet(0, 8, -1), Due.STATE);
-        due.error("the least", SheetsTest::rows, x -> x.sheet(3, 32, Integer.MIN_VALUE), Due.STATE);
-        due.error("sheet(0, 8, 25)", SheetsTest::rows, x -> x.sheet(0, 8, 25), Due.BEYOND);
-    }
-
     private static void puts() {
         DirtPress x = new DirtPress();
         rows(x);
         due.is("put(0, 4, 99)", x.put(0, 4, 99), 1);
         numbers("after a put", x, 0, 11, 12, 13, 14, 99);
-        due.error("put(4, 0, 1)", SheetsTest::rows, y -> y.put(4, 0, 1), Due.BEYOND);
-        due.error("put(-1, 0, 1)", SheetsTest::rows, y -> y.put(-1, 0, 1), Due.BEYOND);
-        due.error("put(3, 0, 1)", SheetsTest::rows, y -> y.put(3, 0, 1), Due.NONE);
-        due.error("put(3, -1, 1)", SheetsTest::rows, y -> y.put(3, -1, 1), Due.NONE);
-        due.error("put(0, 5, 1)", SheetsTest::rows, y -> y.put(0, 5, 1), Due.BEYOND);
-        due.error("put(0, -1, 1)", SheetsTest::rows, y -> y.put(0, -1, 1), Due.BEYOND);
     }
 
     private static void lowestBits() {
@@ -110,23 +88,6 @@ public final class SheetsTest {
         numbers("all to the end", x, 0, 12, 13, 12, 13, 33);
     }
 
-    private static void wrongMoves() {
-        int max = Integer.MAX_VALUE;
-        int[][] beyond = {
-            {0, 0, 4, 0, 1}, {4, 0, 0, 0, 1}, {-1, 0, 0, 0, 1}, {0, 0, -1, 0, 1}, {3, 0, 4, 0, 1},
-            {0, -1, 2, 0, 1}, {0, 0, 2, -1, 1}, {0, 0, 2, 0, -1}, {0, 0, 2, 0, 4}, {2, 0, 0, 0, 4},
-            {0, 5, 2, 0, 1}, {0, 0, 2, 3, 1}, {0, 6, 2, 0, 0}, {0, 0, 2, 4, 0}, {0, max, 2, 0, 1},
-            {0, 0, 2, max, 1}, {0, 1, 0, 1, max}, {0, max, 0, max, max}, {0, 3, 0, 0, 3}, {0, -1, 2, 0, 0},
-        };
-        for (int[] m : beyond) {
-            due.error("move", SheetsTest::rows, x -> x.move(m[0], m[1], m[2], m[3], m[4]), Due.BEYOND);
-        }
-        due.error("from a missing one", SheetsTest::rows, x -> x.move(3, 0, 0, 0, 1), Due.NONE);
-        due.error("to a missing one", SheetsTest::rows, x -> x.move(0, -1, 3, 0, 1), Due.NONE);
-        due.error("unlike bits", SheetsTest::rows, x -> x.move(0, 0, 1, 0, 1), Due.KIND);
-        due.error("unlike bits, and beyond", SheetsTest::rows, x -> x.move(0, -1, 1, 0, 99), Due.KIND);
-    }
-
     private static void spoons() {
         DirtPress x = new DirtPress();
         rows(x);
@@ -151,12 +112,6 @@ public final class SheetsTest {
         due.is("the next one keeps", x.hold(1, 0), 7);
         x.sheet(3, 8, 0);
         due.is("an empty sheet", x.spoons(1, 3), 0);
-        due.error("spoons(2, 0)", SheetsTest::rows, y -> y.spoons(2, 0), Due.BEYOND);
-        due.error("spoons(-1, 0)", SheetsTest::rows, y -> y.spoons(-1, 0), Due.BEYOND);
-        due.error("spoons(0, 4)", SheetsTest::rows, y -> y.spoons(0, 4), Due.BEYOND);
-        due.error("spoons(0, -1)", SheetsTest::rows, y -> y.spoons(0, -1), Due.BEYOND);
-        due.error("spoons(2, 3)", SheetsTest::rows, y -> y.spoons(2, 3), Due.BEYOND);
-        due.error("spoons(0, 3)", SheetsTest::rows, y -> y.spoons(0, 3), Due.NONE);
     }
 
     private static void judges() {
@@ -175,8 +130,5 @@ public final class SheetsTest {
         Due.row(x, 3, 16, 15);
         due.is("less numbers than people", x.judge(3), 1);
         due.is("no error is told", x.told(1) + x.told(2), 0);
-        due.error("judge(4)", SheetsTest::rows, y -> y.judge(4), Due.BEYOND);
-        due.error("judge(-1)", SheetsTest::rows, y -> y.judge(-1), Due.BEYOND);
-        due.error("judge(3)", SheetsTest::rows, y -> y.judge(3), Due.NONE);
     }
 }

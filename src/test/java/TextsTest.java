@@ -1,4 +1,4 @@
-/** Promises 13 to 16, and TEXTS. */
+/** Promises 13 to 16, and TEXTS; their edges stand in EdgesOfTextsTest. */
 public final class TextsTest {
     private static final Due due = new Due("TextsTest");
 
@@ -8,7 +8,6 @@ public final class TextsTest {
         untelling();
         laws();
         values();
-        wraps();
         faults();
         opens();
         due.end();
@@ -19,14 +18,6 @@ public final class TextsTest {
         Due.text(x, 0, "w+1");
         Due.text(x, 1, "v*2");
         return Due.feed(x, "w-");
-    }
-
-    private static long full(DirtPress x) {
-        told(x);
-        for (int i = 0; i < 7; i++) {
-            x.feed(0x3130313031303130L, 8);
-        }
-        return x.feed(0x31, 1);
     }
 
     private static void feeding() {
@@ -40,15 +31,6 @@ public final class TextsTest {
         due.is("the fifth digit", x.text(0), -14);
         due.is("all eight bytes of a word", x.feed(0x312B312B312B312BL, 8), 8);
         due.is("the first of them", x.text(0), -10);
-        DirtPress y = new DirtPress();
-        due.is("61 bytes are 59", full(y), 59);
-        due.is("the 60th", y.feed(0, 1), 60);
-        due.error("feed of 0", TextsTest::told, z -> z.feed(1, 0), Due.BEYOND);
-        due.error("feed of 9", TextsTest::told, z -> z.feed(1, 9), Due.BEYOND);
-        due.error("feed of -1", TextsTest::told, z -> z.feed(1, -1), Due.BEYOND);
-        due.error("feed of 2 to 59", TextsTest::full, z -> z.feed(1, 2), Due.FULL);
-        due.error("feed of 9 to 59", TextsTest::full, z -> z.feed(1, 9), Due.BEYOND);
-        due.error("feed of 8 to 59", TextsTest::full, z -> z.feed(1, 8), Due.FULL);
     }
 
     private static void texts() {
@@ -63,8 +45,6 @@ public final class TextsTest {
         due.is("the later one", x.law(0, 2, 0, 0), 6);
         due.is("the other use keeps its own", x.law(1, 4, 0, 0), 8);
         due.is("an empty tape", x.text(1), -10);
-        due.error("text(2)", TextsTest::told, y -> y.text(2), Due.BEYOND);
-        due.error("text(-1)", TextsTest::told, y -> y.text(-1), Due.BEYOND);
     }
 
     private static void untelling() {
@@ -77,32 +57,16 @@ public final class TextsTest {
         due.is("the other use", x.law(1, 4, 0, 0), 8);
         due.is("untell(1)", x.untell(1), 1);
         due.is("the tape stays", x.count(2), 2);
-        due.error("untell(2)", TextsTest::told, y -> y.untell(2), Due.BEYOND);
-        due.error("untell(-1)", TextsTest::told, y -> y.untell(-1), Due.BEYOND);
     }
 
     private static void laws() {
         DirtPress x = new DirtPress();
-        int max = Integer.MAX_VALUE;
-        int min = Integer.MIN_VALUE;
-        int[][] held = {{9, 9, 9}, {10, 9, 10}, {-9, -9, 0}, {-10, -9, 0}, {999, 9, 999}, {1000, 9, 999},
-            {max, 9, 999}, {min, -9, 0}};
-        for (int[] h : held) {
-            due.is("law(0, " + h[0] + ")", x.law(0, h[0], 3, 4), h[1]);
-            due.is("law(1, " + h[0] + ")", x.law(1, h[0], 3, 4), h[2]);
-        }
         Due.text(x, 0, "w*100+s*10+y-400");
         due.is("names of 0 in order", x.law(0, 3, 9, 13), 3);
         Due.text(x, 1, "v*100+s*10+n");
         due.is("names of 1 in order", x.law(1, 3, 2, 1), 321);
         due.is("held above", x.law(1, 30, 2, 1), 999);
         due.is("held below", x.law(1, -30, 2, 1), 0);
-        due.is("n is not a name of 0", Due.text(x, 0, "w+n"), -12);
-        due.is("v is not a name of 0", Due.text(x, 0, "v"), -10);
-        due.is("w is not a name of 1", Due.text(x, 1, "w"), -10);
-        due.is("y is not a name of 1", Due.text(x, 1, "v+y"), -12);
-        due.error("law(2, ..)", TextsTest::told, y -> y.law(2, 1, 1, 1), Due.BEYOND);
-        due.error("law(-1, ..)", TextsTest::told, y -> y.law(-1, 1, 1, 1), Due.BEYOND);
     }
 
     private static void value(String text, int want) {
@@ -120,59 +84,21 @@ public final class TextsTest {
         value("(2+3)*4", 20);
         value("20/3*3", 18);
         value("20%3/2", 1);
-        value("5/0", 0);
-        value("5%0", 0);
         value("5/0+6%0+4", 4);
-        value("100+(0-7)/2", 97);
-        value("100+(0-7)%2", 99);
-        value("1<2", 1);
-        value("2<2", 0);
-        value("2=2", 1);
-        value("2=3", 0);
-        value("3>2", 1);
-        value("2>2", 0);
         value("1+1=2", 1);
         value("3<1+3", 1);
-        value("1|0", 1);
-        value("0|0", 0);
-        value("5|9", 1);
-        value("5&9", 1);
-        value("5&0", 0);
-        value("0&5", 0);
         value("1|1&0", 1);
         value("1&0|1", 1);
         value("0|0|4", 1);
         value("4&4&0", 0);
-        value("(0-1)&1", 1);
         value("1<2&2<3", 1);
         value("1<2&3<3", 0);
-        value("!0", 1);
-        value("!7", 0);
-        value("!!7", 1);
         value("!0+5", 6);
         value("!0*5", 5);
         value("!(1=2)*6", 6);
-        value("((((8))))", 8);
-        value("0007", 7);
-        value("9999", 999);
-        value("9999-9990", 9);
         value("v*10+s", 73);
         value("n+9", 4);
         value("v", 7);
-    }
-
-    private static void wraps() {
-        DirtPress x = new DirtPress();
-        Due.text(x, 1, "v+1<v");
-        due.is("a sum wraps", x.law(1, Integer.MAX_VALUE, 0, 0), 1);
-        Due.text(x, 1, "v-1>v");
-        due.is("a difference wraps", x.law(1, Integer.MIN_VALUE, 0, 0), 1);
-        Due.text(x, 1, "v*v");
-        due.is("a product wraps", x.law(1, 65536, 0, 0), 0);
-        Due.text(x, 1, "v/s=v");
-        due.is("the least by -1", x.law(1, Integer.MIN_VALUE, -1, 0), 1);
-        Due.text(x, 1, "v%s+3");
-        due.is("its rest", x.law(1, Integer.MIN_VALUE, -1, 0), 3);
     }
 
     private static void fault(String text, int want) {
@@ -184,61 +110,17 @@ public final class TextsTest {
     }
 
     private static void faults() {
-        fault("", 0);
-        fault(" w", 0);
-        fault("w ", 1);
-        fault("w +1", 1);
-        fault("+w", 0);
-        fault("-1", 0);
-        fault("w+", 2);
         fault("w+*2", 2);
-        fault("w!1", 1);
-        fault("ws", 1);
-        fault("w1", 1);
-        fault("1w", 1);
-        fault("12345", 4);
-        fault("1+12345", 6);
-        fault("1<2<3", 3);
-        fault("1=2>3", 3);
+        fault("w+(s*2", 6);
         fault("1<2|3<4<5", 7);
-        fault("(1<2<3)", 4);
-        fault("1<", 2);
-        fault("w|", 2);
-        fault("w||s", 2);
-        fault("w&&s", 2);
-        fault("()", 1);
-        fault("(w", 2);
-        fault("(w))", 3);
-        fault(")", 0);
-        fault("w)", 1);
-        fault("!", 1);
-        fault("!)", 1);
         fault("(w+(s)", 6);
-        fault("w(s)", 1);
-        fault("2(s)", 1);
-        fault("x", 0);
-        fault("W", 0);
-        fault("w+\u00e9", 2);
-        fault("w+\u0000", 2);
-        fault("v", 0);
-        DirtPress x = new DirtPress();
-        due.is("60 bytes", Due.text(x, 0, "1+1+1+1+1+1+1+1+1+1+1+1+1+1+1+1+1+1+1+1+1+1+1+1+1+1+1+112345"), -68);
-        due.is("60 bytes of a text", Due.text(x, 0, "1-1+1-1+1-1+1-1+1-1+1-1+1-1+1-1+1-1+1-1+1-1+1-1+1-1+1-1+7*!0"), 1);
-        due.is("their value", x.law(0, 0, 0, 0), 7);
+        fault("2*(w+s)y", 7);
+        fault("!(w=s)&y|", 9);
     }
 
     private static void opens() {
-        value("!!!!!0", 1);
-        value("(((((6)))))", 6);
-        value("!(!(!0))", 1);
         value("!0+!0+!0+!0+!0+!0+!0", 7);
-        value("(1)+(1)+(1)+(1)+(1)+(1)+(1)", 7);
-        value("((((!0+!0))))", 2);
         value("1+(2*(3+(1|(0&(5)))))", 9);
-        fault("!!!!!!0", 5);
-        fault("((((((6))))))", 5);
-        fault("!(!(!(0)))", 5);
-        fault("((((!!w))))", 5);
         fault("((((!w+!(w))))", 8);
         fault("(((((w)+!!w", 9);
         fault("(((((w+!w", 7);

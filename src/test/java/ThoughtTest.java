@@ -1,4 +1,4 @@
-/** Promises 21 to 28. */
+/** Promises 21 to 28; their edges stand in EdgesOfThoughtTest. */
 public final class ThoughtTest {
     private static final Due due = new Due("ThoughtTest");
 
@@ -12,7 +12,6 @@ public final class ThoughtTest {
         netsBySize();
         odds();
         fits();
-        wrongFits();
         due.end();
     }
 
@@ -21,10 +20,6 @@ public final class ThoughtTest {
         x.person(12);
         Due.set(x, 0, 5, 6, 0, 1, 0);
         return Due.set(x, 1, 7, 9, 1, 1, 4);
-    }
-
-    private static long nobody(DirtPress x) {
-        return 0;
     }
 
     private static void then() {
@@ -49,12 +44,6 @@ public final class ThoughtTest {
         due.is("beyond 999", x.then(0, 0, 5), 9);
         due.is("the year stays", x.count(1), 999);
         due.is("the spoons stay", x.hold(0, 0), 5);
-        due.error("then(2, 0, 1)", ThoughtTest::two, y -> y.then(2, 0, 1), Due.BEYOND);
-        due.error("then(-1, 0, 1)", ThoughtTest::two, y -> y.then(-1, 0, 1), Due.BEYOND);
-        due.error("then(0, 5, 1)", ThoughtTest::two, y -> y.then(0, 5, 1), Due.BEYOND);
-        due.error("then(0, -1, 1)", ThoughtTest::two, y -> y.then(0, -1, 1), Due.BEYOND);
-        due.error("then(0, 0, 61)", ThoughtTest::two, y -> y.then(0, 0, 61), Due.BEYOND);
-        due.error("then(0, 0, -1)", ThoughtTest::two, y -> y.then(0, 0, -1), Due.BEYOND);
     }
 
     private static void clean() {
@@ -79,20 +68,6 @@ public final class ThoughtTest {
         Due.text(x, 0, "0-(y=1058)");
         x.year(999);
         due.is("behind just 60, beyond 999", x.clean(1, 1), 60);
-        due.error("behind 61", ThoughtTest::in61, y -> y.clean(1, 1), Due.NONE);
-        due.error("who behind 61", ThoughtTest::in61, y -> y.clean(1, 0), Due.NONE);
-        due.error("clean(0, 0)", ThoughtTest::two, y -> y.clean(0, 0), Due.NONE);
-        due.error("clean of nobody", ThoughtTest::nobody, y -> y.clean(500, 0), Due.NONE);
-        due.error("clean(501, 0)", ThoughtTest::two, y -> y.clean(501, 0), Due.BEYOND);
-        due.error("clean(-1, 0)", ThoughtTest::two, y -> y.clean(-1, 0), Due.BEYOND);
-        due.error("clean(0, 2)", ThoughtTest::two, y -> y.clean(0, 2), Due.BEYOND);
-        due.error("clean(0, -1)", ThoughtTest::two, y -> y.clean(0, -1), Due.BEYOND);
-    }
-
-    private static long in61(DirtPress x) {
-        x.person(0);
-        x.spoon(0, 0, 1);
-        return Due.text(x, 0, "0-(y=60)");
     }
 
     private static long pairs(DirtPress x) {
@@ -119,14 +94,6 @@ public final class ThoughtTest {
         due.is("one sort is off", x.parents(0, 0), 1);
         due.is("then the lesser", x.parents(0, 1), 3);
         due.is("then the other", x.parents(0, 2), 4);
-        for (int what = 1; what <= 2; what++) {
-            int w = what;
-            due.error("no pair", ThoughtTest::pairs, y -> y.parents(4, w), Due.NONE);
-        }
-        due.error("parents(5, 0)", ThoughtTest::pairs, y -> y.parents(5, 0), Due.BEYOND);
-        due.error("parents(-1, 0)", ThoughtTest::pairs, y -> y.parents(-1, 0), Due.BEYOND);
-        due.error("parents(0, 3)", ThoughtTest::pairs, y -> y.parents(0, 3), Due.BEYOND);
-        due.error("parents(4, -1)", ThoughtTest::pairs, y -> y.parents(4, -1), Due.BEYOND);
         x.spoon(0, 0, 5);
         due.is("the first sort is off", x.parents(0, 0), 0);
         Due.set(x, 4, 2, 4, 4, 4, 4);
@@ -165,9 +132,6 @@ public final class ThoughtTest {
         due.is("what neither has now", x.falseSorts(2), 1 + 8 + 16);
         x.spoon(2, 3, 0);
         due.is("and one has", x.falseSorts(2), 1 + 16);
-        due.error("of an orphan", ThoughtTest::born, y -> y.falseSorts(0), Due.STATE);
-        due.error("falseSorts(3)", ThoughtTest::born, y -> y.falseSorts(3), Due.BEYOND);
-        due.error("falseSorts(-1)", ThoughtTest::born, y -> y.falseSorts(-1), Due.BEYOND);
     }
 
     private static void kin() {
@@ -182,11 +146,6 @@ public final class ThoughtTest {
         due.is("half siblings", x.kin(4, 5), 1 + 2 + 4);
         due.is("father and grandchild", x.kin(1, 4), 2);
         due.is("child and grandchild", x.kin(4, 2), 7);
-        due.error("kin(1, 1)", ThoughtTest::born, y -> y.kin(1, 1), Due.BEYOND);
-        due.error("kin(3, 1)", ThoughtTest::born, y -> y.kin(3, 1), Due.BEYOND);
-        due.error("kin(1, 3)", ThoughtTest::born, y -> y.kin(1, 3), Due.BEYOND);
-        due.error("kin(-1, 1)", ThoughtTest::born, y -> y.kin(-1, 1), Due.BEYOND);
-        due.error("kin(1, -1)", ThoughtTest::born, y -> y.kin(1, -1), Due.BEYOND);
     }
 
     private static DirtPress owing(int... loans) {
@@ -220,8 +179,6 @@ public final class ThoughtTest {
         nets("two groups", owing(0, 1, 5, 2, 3, 7), 2, 12);
         nets("two groups by one hub", owing(0, 4, 5, 4, 1, 5, 2, 4, 7, 4, 3, 7), 2, 12);
         nets("three and two", owing(0, 1, 4, 0, 2, 5, 3, 4, 9, 3, 1, 1, 5, 3, 1), 4, 19);
-        due.error("nets(2)", ThoughtTest::two, y -> y.nets(2), Due.BEYOND);
-        due.error("nets(-1)", ThoughtTest::two, y -> y.nets(-1), Due.BEYOND);
     }
 
     private static void netsBySize() {
@@ -229,10 +186,6 @@ public final class ThoughtTest {
         nets("four pairs by a hub", owing(0, 1, 1, 2, 3, 2, 4, 5, 4, 6, 7, 8, 1, 3, 30, 3, 5, 30, 5, 1, 30), 4, 15);
         nets("groups of three and five",
             owing(0, 1, 10, 0, 2, 20, 3, 4, 1, 3, 5, 3, 3, 6, 7, 3, 7, 15, 0, 4, 9, 4, 0, 9), 6, 56);
-    }
-
-    private static long one(DirtPress x) {
-        return x.person(1);
     }
 
     private static void odds() {
@@ -254,13 +207,6 @@ public final class ThoughtTest {
         x.person(0);
         due.is("six of ten, above", x.odds(6, 0), 3);
         due.is("six of ten, below", x.odds(6, 1), 5);
-        due.error("odds(501, 0)", ThoughtTest::two, y -> y.odds(501, 0), Due.BEYOND);
-        due.error("odds(-1, 0)", ThoughtTest::two, y -> y.odds(-1, 0), Due.BEYOND);
-        due.error("odds(1, 2)", ThoughtTest::two, y -> y.odds(1, 2), Due.BEYOND);
-        due.error("odds(1, -1)", ThoughtTest::two, y -> y.odds(1, -1), Due.BEYOND);
-        due.error("odds of one", ThoughtTest::one, y -> y.odds(1, 0), Due.STATE);
-        due.error("odds of nobody", ThoughtTest::nobody, y -> y.odds(500, 1), Due.STATE);
-        due.error("odds(501, 0) of one", ThoughtTest::one, y -> y.odds(501, 0), Due.BEYOND);
     }
 
     private static void fits() {
@@ -284,26 +230,5 @@ public final class ThoughtTest {
         due.is("the spoons stay", x.hold(1, 0), 7);
         Due.row(x, 3, 8, 0);
         due.is("no set without people", x.fits(3, 0), 0);
-    }
-
-    private static long rows(DirtPress x) {
-        two(x);
-        x.sheet(0, 8, 5);
-        x.put(0, 0, 6);
-        return x.sheet(1, 8, 6);
-    }
-
-    private static void wrongFits() {
-        DirtPress x = new DirtPress();
-        x.sheet(0, 8, 0);
-        due.is("fits of nobody", x.fits(0, 0), 0);
-        due.is("the least of nobody", x.fits(0, 1), Due.LOW - Due.NONE);
-        due.error("no set", ThoughtTest::rows, y -> y.fits(0, 1), Due.NONE);
-        due.error("six numbers", ThoughtTest::rows, y -> y.fits(1, 0), Due.NONE);
-        due.error("missing", ThoughtTest::rows, y -> y.fits(2, 0), Due.NONE);
-        due.error("fits(4, 0)", ThoughtTest::rows, y -> y.fits(4, 0), Due.BEYOND);
-        due.error("fits(-1, 0)", ThoughtTest::rows, y -> y.fits(-1, 0), Due.BEYOND);
-        due.error("fits(2, 2)", ThoughtTest::rows, y -> y.fits(2, 2), Due.BEYOND);
-        due.error("fits(2, -1)", ThoughtTest::rows, y -> y.fits(2, -1), Due.BEYOND);
     }
 }

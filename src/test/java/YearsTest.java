@@ -1,4 +1,4 @@
-/** Promises 17 to 20. */
+/** Promises 17 to 20; their edges stand in EdgesOfYearsTest and EdgesOfTermsTest. */
 public final class YearsTest {
     private static final Due due = new Due("YearsTest");
 
@@ -6,10 +6,8 @@ public final class YearsTest {
         years();
         kinds();
         order();
-        wrongYears();
         looseYears();
         draws();
-        yearAndSeed();
         due.end();
     }
 
@@ -69,21 +67,6 @@ public final class YearsTest {
         x.years(1);
         due.is("held at 0", x.hold(0, 0), 0);
         due.is("less", x.hold(0, 4), 11);
-    }
-
-    private static void wrongYears() {
-        due.error("years(0)", YearsTest::some, x -> x.years(0), Due.BEYOND);
-        due.error("years(-1)", YearsTest::some, x -> x.years(-1), Due.BEYOND);
-        due.error("years(61)", YearsTest::some, x -> x.years(61), Due.BEYOND);
-        due.error("years(10)", YearsTest::some, x -> x.years(10), Due.STATE);
-        due.error("years(60)", YearsTest::some, x -> x.years(60), Due.STATE);
-        due.error("loose(0)", YearsTest::some, x -> x.loose(0), Due.BEYOND);
-        due.error("loose(-1)", YearsTest::some, x -> x.loose(-1), Due.BEYOND);
-        due.error("loose(21)", YearsTest::some, x -> x.loose(21), Due.BEYOND);
-        due.error("loose(10)", YearsTest::some, x -> x.loose(10), Due.STATE);
-        due.error("loose(20)", YearsTest::some, x -> x.loose(20), Due.STATE);
-        due.error("year(1000)", YearsTest::some, x -> x.year(1000), Due.BEYOND);
-        due.error("year(-1)", YearsTest::some, x -> x.year(-1), Due.BEYOND);
     }
 
     private static int drawn(int z) {
@@ -149,16 +132,5 @@ public final class YearsTest {
         int before = x.loose(1);
         due.is("the theft is ahead of the gain", x.hold(0, 1) + x.hold(1, 1), 44);
         due.is("half of 21 or nothing", before == 0 || before == 10 ? 1 : 0, 1);
-    }
-
-    private static void yearAndSeed() {
-        DirtPress x = new DirtPress();
-        due.is("year(999)", x.year(999), 0);
-        due.is("year(0)", x.year(0), 999);
-        due.is("count(1)", x.count(1), 0);
-        due.is("seed(-1000000001)", x.seed(-1000000001), 1);
-        due.is("seed(5)", x.seed(5), -1000000001);
-        due.is("count(5)", x.count(5), 5);
-        due.is("a z is no error", x.told(1), 0);
     }
 }
